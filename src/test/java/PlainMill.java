@@ -264,6 +264,10 @@ final class PlainMill {
         throw new NoSuchElementException();
     }
 
+    boolean placed(int block) {
+        return placed.stream().anyMatch(b -> b.number == block && !b.left);
+    }
+
     private void cycle() {
         int t = told[1];
         List<Request> now = new ArrayList<>();
