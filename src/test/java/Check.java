@@ -8,15 +8,33 @@ final class Check {
     static final int WRONG_STATE = Integer.MIN_VALUE + 103;
     private static int wrong = 0;
     private static int asked = 0;
+    private static int sentences = 0;
+    private static int askedBefore = 0;
+    private static String sentence = "";
 
     private Check() {
+    }
+
+    /** What is asked for from here on is held against these words of the document. */
+    static void sentence(String where, String words) {
+        refuseAnEmptyOne();
+        sentences++;
+        askedBefore = asked;
+        sentence = where + ", \"" + words + "\": ";
+    }
+
+    private static void refuseAnEmptyOne() {
+        if (sentences > 0 && asked == askedBefore) {
+            wrong++;
+            System.out.println(sentence + "nothing is asked for");
+        }
     }
 
     static void due(String what, int got, int want) {
         asked++;
         if (got != want) {
             wrong++;
-            System.out.println(what + " answered " + got + ", due is " + want);
+            System.out.println(sentence + what + " answered " + got + ", due is " + want);
         }
     }
 
@@ -79,7 +97,9 @@ final class Check {
     }
 
     static void end() {
-        System.out.println(asked + " answers, " + (wrong == 0 ? "all as due" : wrong + " not as due"));
+        refuseAnEmptyOne();
+        String held = sentences > 0 ? sentences + " sentences, " : "";
+        System.out.println(held + asked + " answers, " + (wrong == 0 ? "all as due" : wrong + " not as due"));
         if (wrong != 0) {
             System.exit(1);
         }
