@@ -206,7 +206,7 @@ public final class WarpMill {
     }
 
     private void dispatch() {
-        int warps = (tally.threads + sizes.lanes - 1) / sizes.lanes;
+        int warps = warpsOfABlock();
         for (int k = tally.dispatched; k < tally.blocks && k < blocks.length; k++) {
             Unit unit = firstWithRoom(warps);
             if (unit == null) {
@@ -219,6 +219,11 @@ public final class WarpMill {
             unit.seat(blocks[k], warps, sizes.lanes, kernel);
             tally.dispatched = k + 1;
         }
+    }
+
+    private int warpsOfABlock() {
+        int lanes = Math.max(1, sizes.lanes);
+        return (tally.threads + lanes - 1) / lanes;
     }
 
     private Unit firstWithRoom(int warps) {

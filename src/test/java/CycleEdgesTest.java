@@ -273,7 +273,8 @@ public final class CycleEdgesTest extends Edges {
     }
 
     private static void theFirstUnitWithRoom() {
-        sentence(STEP_1, "the next BLOCK (they come in order) goes to the first UNIT that has as many free SLOTS as it has WARPS");
+        sentence(STEP_1, "the next BLOCK (they come in order) goes to the first UNIT "
+            + "that has as many free SLOTS as it has WARPS");
         Mill two = launched(sized(4, 3, 2, jump(0)), 3, 8);
         two.run(1);
         blocksInSlots(two, new int[] {0, 0, NONE}, new int[] {1, 1, NONE});

@@ -126,7 +126,8 @@ public final class GoingEdgesTest extends Edges {
     }
 
     private static void aTickNotAboveTheCycle() {
-        sentence(READY, "each register and PREDICATE that the WORD reads or writes is THERE (its tick is not above the cycle's number");
+        sentence(READY, "each register and PREDICATE that the WORD reads or writes is THERE "
+            + "(its tick is not above the cycle's number");
         goesIn(3, "a that is read", times(1, 1, 1), add(2, 1, 1));
         goesIn(3, "b that is read", times(1, 1, 1), w(4, 2, 3, 1, 0));
         goesIn(3, "d that is written", times(1, 1, 1), put(1, 1));
@@ -153,10 +154,15 @@ public final class GoingEdgesTest extends Edges {
 
     private static void nothingForWhatIsNoWord() {
         sentence(READY, "of what is no WORD nothing must be");
-        for (long word : new long[] {w(22, 1, 1, 1, 0), w(60, 1, 1, 1, 0), w(3, 1, 1, 1, 7)}) {
-            Mill m = launched(mill(load(1, 0, 8), w(70, 1, 0, 0, 0), on(1, word)), 1, 1);
-            due("a trap in cycle 2", m.run(3), 4);
-            m.states("no such word", 8, 2, 0, 0, 2);
+        int[][] words = {{22, 0}, {29, 0}, {37, 0}, {39, 0}, {43, 0}, {49, 0}, {60, 0}, {69, 0}, {74, 0}, {255, 0},
+            {3, 7}, {3, -1}};
+        for (int[] word : words) {
+            for (int r : new int[] {0, 1, 15}) {
+                // Register r and the memory tick are not there till cycle 12, predicate 1 not till cycle 3.
+                Mill m = launched(mill(load(r, r, 8), w(70, 1, 0, 0, 0), on(1, w(word[0], r, r, r, word[1]))), 1, 1);
+                due("op " + word[0] + " with register " + r + ", a trap in cycle 2", m.run(3), 4);
+                m.states("no such word", 8, 2, 0, 0, 2);
+            }
         }
     }
 
@@ -479,6 +485,13 @@ public final class GoingEdgesTest extends Edges {
         Mill last = launched(sized(32, 1, 1, about(1, 4), add(2, 1, -31), w(8, 3, 1, 2, 0)), 1, 32);
         due("a trap", last.run(100), 3);
         last.states("lane 31", 8, 3, 0, 31, 2);
+        for (int op = 50; op <= 59; op++) {
+            // Lanes 1 to 3 ask for what is behind the last int.
+            int bound = ofShared(op) ? 64 : 512;
+            Mill some = launched(mill(about(1, 4), w(op, 2, 1, 3, bound - 1)), 1, 4);
+            due("op " + op + " traps", some.run(50), 3);
+            some.states("lane 1", 8, 4, 0, 1, 1);
+        }
     }
 
     private static void onlyLanesThatDoIt() {

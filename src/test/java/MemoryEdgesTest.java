@@ -135,6 +135,7 @@ public final class MemoryEdgesTest extends Edges {
             most(1, 4, 4, op, 5, 0);
             most(1, 4, 4, op, 1, 60);
             due("op " + op + ": two at one int and one more of its bank", mixed(op).unit(0, 1), 5 + 2);
+            due("op " + op + ": two ints by turns", byTurns(op).unit(0, 1), 4 + 2);
         }
     }
 
@@ -151,7 +152,15 @@ public final class MemoryEdgesTest extends Edges {
             most(4, 4, 4, op, 4, 0);
             most(1, 4, 4, op, 1, 60);
             due("op " + op + ": two at one int and one more of its bank", mixed(op).unit(0, 1), 5 + 3);
+            due("op " + op + ": two ints by turns", byTurns(op).unit(0, 1), 4 + 4);
         }
+    }
+
+    /** Lanes 0 and 2 ask for int 0, lanes 1 and 3 for int 4, of the same bank; in cycle 4. */
+    private static Mill byTurns(int op) {
+        Mill m = sized(4, 1, 1, about(1, 4), w(20, 2, 1, 0, 1), equal(0, 2, 1), on(0, put(2, 4)), w(op, 3, 2, 1, 0), jump(5));
+        launched(m, 1, 4).upTo(5);
+        return m;
     }
 
     /** Lanes 0 and 1 ask for int 0, lane 2 for int 4 (of the same bank), lane 3 for int 1; in cycle 5. */
@@ -391,7 +400,7 @@ public final class MemoryEdgesTest extends Edges {
         }
     }
 
-    /** The four lanes ask for these ints of line 1 in cycle 7, a miss; L is to be as wanted. */
+    /** The four lanes ask for these ints in cycle 7, all of them misses; L is to be as wanted. */
     private static void more(int op, int want, int... ints) {
         Mill m = sized(4, 1, 1, about(1, 4));
         for (int lane = 1; lane < 4; lane++) {
@@ -415,6 +424,11 @@ public final class MemoryEdgesTest extends Edges {
             more(op, 12 + 2, 9, 8, 9, 8);
             more(op, 12 + 1, 8, 9, 10, 8);
             more(op, 12, 8, 9, 10, 15);
+            more(op, 12, 9, 10, 11, 15);
+            more(op, 12 + 1, 9, 10, 11, 9);
+            more(op, 12 + 2, 8, 8, 16, 16);
+            more(op, 12 + 2, 17, 9, 17, 9);
+            more(op, 12 + 1, 8, 16, 16, 9);
         }
         for (int op : new int[] {50, 51}) {
             more(op, 12, 8, 8, 8, 8);
@@ -453,6 +467,7 @@ public final class MemoryEdgesTest extends Edges {
             m.upTo(c[0]);
             due("behind " + c[0] + " cycles", m.state(19), c[1]);
         }
+        farApart();
         // Lanes of one line are done together, whatever lanes are between them.
         Mill together = launched(mill(about(1, 4), w(20, 2, 1, 0, 1), times(2, 2, 16), load(3, 2, 0), jump(4)), 1, 4);
         together.upTo(17);
@@ -463,6 +478,28 @@ public final class MemoryEdgesTest extends Edges {
         due("no more till cycle 21", together.state(19), 2);
         together.run(1);
         due("two more in cycle 22", together.state(19), 0);
+    }
+
+    /** Warp 0 asks in cycle 10 for 32 lines of gate 0, warp 1 in cycle 11 for one of gate 1. */
+    private static void farApart() {
+        Mill m = sized(32, 2, 1, about(1, 4), about(2, 5), times(3, 1, 16), equal(0, 2, 1), on(0, jump(20)), load(4, 3, 0), jump(6));
+        kernelAt(m, 20, load(4, 0, 8), jump(21));
+        for (int lane = 0; lane < 32; lane++) {
+            m.set(16 * lane, 100 + lane);
+        }
+        m.set(8, 99);
+        launched(m, 1, 64).upTo(23);
+        due("lane 0 is done in cycle 22", m.state(19), 31 + 32);
+        m.run(1);
+        due("all lanes of warp 1 in cycle 23", m.state(19), 31);
+        due("lane 31 of warp 1", m.lane(0, 1, 31, 4), 99);
+        for (int lane = 1; lane < 32; lane++) {
+            m.upTo(22 + 5 * lane);
+            due("lane " + lane + " is pending", m.lane(0, 0, lane, 4), 0);
+            m.run(1);
+            due("lane " + lane + " is done", m.lane(0, 0, lane, 4), 100 + lane);
+            due("those behind it are not", m.state(19), 31 - lane);
+        }
     }
 
     private static void doneLaneByLane() {

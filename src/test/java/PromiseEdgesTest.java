@@ -1,7 +1,7 @@
 /** Boundary cases of the promises 1 to 14, a sentence each. */
 public final class PromiseEdgesTest extends Edges {
-    private static final String[] PROMISES = {"", "Promise 1: A new object", "Promise 2: sizes", "Promise 3: word", "Promise 4: set",
-        "Promise 5: launch", "Promise 6: run", "Promise 7: stop", "Promise 8: global", "Promise 9: state", "Promise 10: unit",
+    private static final String[] PROMISES = {"", "Promise 1: A new object", "Promise 2: sizes", "Promise 3: word",
+        "Promise 4: set", "Promise 5: launch", "Promise 6: run", "Promise 7: stop", "Promise 8: global", "Promise 9: state", "Promise 10: unit",
         "Promise 11: cached", "Promise 12: slot", "Promise 13: lane", "Promise 14: shared"};
     private static final int GATE_TICK = 4;
 
@@ -14,6 +14,7 @@ public final class PromiseEdgesTest extends Edges {
         sizesKeepTheKernel();
         sizesKeepTheInts();
         sizesBringZeros();
+        sizesAreAllOthers();
         sizesRefuseOthers();
         sizesRefuseUnderWay();
         wordRefusesOthers();
@@ -235,6 +236,31 @@ public final class PromiseEdgesTest extends Edges {
         due("int 511 stays", m.global(511), 511);
     }
 
+    private static void sizesAreAllOthers() {
+        promise(2, "Other SIZES");
+        // From the least to the greatest and back, with a launch in each.
+        int[][] all = {{1, 1, 1, 1, 1, 512}, {32, 16, 8, 32, 8, 4096}, {2, 5, 3, 2, 2, 1024},
+            {16, 2, 8, 16, 4, 2048}, {1, 16, 1, 1, 1, 512}};
+        Mill m = mill(about(1, 0), load(2, 0, 511), w(58, 3, 0, 1, 63), jump(3));
+        m.set(511, 44);
+        for (int[] s : all) {
+            yes("sizes", m.sizes(s[0], s[1], s[2], s[3], s[4], s[5]));
+            int threads = s[0] * s[1];
+            launched(m, s[2], threads).run(500);
+            // 16 warps of 32 lanes at one int take 32 cycles each.
+            m.run(100);
+            String what = threads + " threads in each of " + s[2] + " units";
+            int u = s[2] - 1;
+            due(what + ": the last one", m.lane(u, s[1] - 1, s[0] - 1, 1), threads - 1);
+            due(what + ": what it read", m.lane(u, s[1] - 1, s[0] - 1, 2), 44);
+            due(what + ": their sum", m.shared(u, 63), threads * (threads - 1) / 2);
+            due(what + ": no unit more", m.unit(s[2], 3), NONE);
+            due(what + ": no slot more", m.slot(u, s[1], 2), NONE);
+            due(what + ": no lane more", m.lane(u, 0, s[0], 1), NO_SUCH);
+            m.stop();
+        }
+    }
+
     private static void sizesRefuseOthers() {
         promise(2, "false, changing nothing, for others than told");
         int[] fine = {8, 3, 1, 8, 4, 1024};
@@ -398,7 +424,8 @@ public final class PromiseEdgesTest extends Edges {
 
     private static void launchRefusesWhatIsNone() {
         promise(5, "or it is none");
-        int[][] bad = {{0, 1}, {65, 1}, {-1, 1}, {1, 0}, {1, 17}, {1, -1}, {0, 0}, {65, 17}, {MIN, 1}, {MAX, 1}, {1, MIN}, {1, MAX}};
+        int[][] bad = {{0, 1}, {65, 1}, {-1, 1}, {1, 0}, {1, 17}, {1, -1}, {0, 0}, {65, 17}, {MIN, 1}, {MAX, 1},
+            {1, MIN}, {1, MAX}};
         Mill m = over();
         for (int[] b : bad) {
             no("launch(" + b[0] + ", " + b[1] + ")", m.launch(b[0], b[1]));
@@ -584,6 +611,18 @@ public final class PromiseEdgesTest extends Edges {
         due("no shared memory", m.shared(0, 0), NO_SUCH);
         launched(m, 9, 4).run(1);
         due("all have room for the next one", m.slot(1, 3, 0), 7);
+        // Those that waited at a barrier don't count at the next launch's.
+        Mill waits = launched(mill(about(1, 5), equal(0, 1, 1), off(0, WAIT), jump(3)), 1, 8);
+        waits.run(20);
+        due("warp 0 waits", waits.slot(0, 0, 3), 4);
+        waits.stop();
+        kernel(waits, WAIT, jump(1));
+        launched(waits, 1, 8).run(1);
+        due("warp 0 waits anew", waits.slot(0, 0, 3), 4);
+        due("warp 1 has not come yet", waits.slot(0, 1, 3), 0);
+        waits.run(1);
+        due("both have come", waits.slot(0, 0, 3), 0);
+        due("both have come", waits.slot(0, 1, 3), 0);
         Mill trap = trapWithPending();
         due("it is in its slot", trap.slot(0, 0, 0), 0);
         trap.stop();
@@ -601,6 +640,42 @@ public final class PromiseEdgesTest extends Edges {
         kernel(m, jump(0));
         launched(m, 1, 4).run(100);
         due("nor in the next one", m.global(8), 0);
+        due("none is pending", m.state(19), 0);
+        // Nor does it come with what the next one has asked for at the same time.
+        m.stop();
+        kernel(m, put(1, 7), store(0, 1, 16), jump(2));
+        launched(m, 1, 4).run(13);
+        due("four are pending", m.state(19), 4);
+        m.stop();
+        kernel(m, put(1, 6), store(0, 1, 48), jump(2));
+        launched(m, 1, 4).run(13);
+        due("four are pending", m.state(19), 4);
+        m.run(1);
+        due("they are done", m.state(19), 0);
+        due("it is done", m.global(48), 6);
+        due("the other one is not", m.global(16), 0);
+        due("nor the first one", m.global(8), 0);
+        for (int waits = 0; waits <= 64; waits++) {
+            neverDone(waits);
+        }
+    }
+
+    /** What would be done in cycle 13 + waits is given up; the next launch has asked for something else by then. */
+    private static void neverDone(int waits) {
+        Mill m = mill(put(1, 9));
+        for (int k = 1; k <= waits; k++) {
+            m.word(k, put(2, 0));
+        }
+        kernelAt(m, waits + 1, store(0, 1, 8), jump(waits + 2));
+        launched(m, 1, 1).run(waits + 3);
+        due("one is pending", m.state(19), 1);
+        yes("stop", m.stop());
+        m.word(waits + 1, store(0, 1, 48));
+        launched(m, 1, 1).upTo(waits + 13);
+        due("one is pending", m.state(19), 1);
+        m.run(1);
+        due("the next one's is done in cycle " + (13 + waits), m.global(48), 9);
+        due("the first one's is never done", m.global(8), 0);
         due("none is pending", m.state(19), 0);
     }
 
@@ -745,16 +820,31 @@ public final class PromiseEdgesTest extends Edges {
         next.word(0, jump(0));
         launched(next, 1, 1).run(3);
         next.states("the one behind a trap", 8, 0, 0, 0, 0);
+        Mill far = thread5OfBlock3();
+        launched(far, 1, 1);
+        far.states("as the one behind a trap begins", 8, 0, 0, 0, 0);
+        far.stop();
+        far.states("and is given up", 8, 0, 0, 0, 0);
+        Mill sized = thread5OfBlock3();
+        yes("sizes", sized.sizes(4, 4, 2, 4, 2, 512));
+        sized.states("behind sizes", 8, 0, 0, 0, 0);
     }
 
-    private static void stateOfATrap() {
-        promise(9, "8: why (of a TRAP; else 0), 9: its BLOCK, 10: its THREAD's number in that, 11: its PLACE");
-        // Thread 5 of block 3 (lane 1 of warp 1) alone goes to place 9, where no word is.
+    /** Thread 5 of block 3 (lane 1 of warp 1) alone goes to place 9, where no word is. */
+    private static Mill thread5OfBlock3() {
         Mill m = mill(about(1, 0), about(2, 1), equal(0, 1, 5), equal(1, 2, 3), w(34, 2, 0, 1, 0), on(2, jump(9)), END);
         m.word(9, NO_WORD);
         launched(m, 4, 6);
         due("a trap", m.run(200), 3);
         m.states("told", 8, 2, 3, 5, 9);
+        return m;
+    }
+
+    private static void stateOfATrap() {
+        promise(9, "8: why (of a TRAP; else 0), 9: its BLOCK, 10: its THREAD's number in that, 11: its PLACE");
+        Mill m = thread5OfBlock3();
+        due("it is told yet", m.run(5), 3);
+        m.states("it is told yet", 8, 2, 3, 5, 9);
         Mill last = sized(32, 16, 1, about(1, 0), equal(0, 1, 511), on(0, jump(127)), END);
         last.word(127, NO_WORD);
         launched(last, 1, 512);
@@ -957,6 +1047,12 @@ public final class PromiseEdgesTest extends Edges {
 
     private static void laneRefusesOthers() {
         promise(13, "NoSuchElementException: there is none such");
+        Mill most = launched(sized(32, 16, 8, jump(0)), 8, 512);
+        most.run(1);
+        due("the last of all", most.lane(7, 15, 31, 20), 0);
+        due("lane 32", most.lane(7, 15, 32, 20), NO_SUCH);
+        due("slot 16", most.lane(7, 16, 31, 20), NO_SUCH);
+        due("unit 8", most.lane(8, 15, 31, 20), NO_SUCH);
         for (int size : new int[] {1, 4, 8}) {
             Mill m = launched(sized(size, size, size, jump(0)), size, size * size);
             m.run(1);

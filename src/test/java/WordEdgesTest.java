@@ -14,6 +14,7 @@ public final class WordEdgesTest extends Edges {
         theThreadEnds();
         placeOfOneThatWaits();
         barrierOfAll();
+        barrierOnceMore();
         barrierOfTheBlock();
         barrierWhenOneEnds();
         numbersOfAThread();
@@ -172,6 +173,12 @@ public final class WordEdgesTest extends Edges {
         m.lanes("its registers stay", 0, 0, 1, 0, 1, 2, 3);
         m.lanes("and its place", 0, 0, PLACE, 3, 4, 4, 4);
         due("one has ended yet", m.slot(0, 0, 2), 1);
+        Mill turns = launched(mill(about(1, 4), equal(0, 1, 0), equal(1, 1, 1), on(0, END), on(1, END), put(2, 5), jump(6)), 1, 4);
+        turns.upTo(4);
+        due("lane 0 has ended", turns.slot(0, 0, 2), 1);
+        turns.upTo(7);
+        due("and lane 1", turns.slot(0, 0, 2), 2);
+        turns.lanes("neither does anything any more", 0, 0, 2, 0, 0, 5, 5);
     }
 
     private static void placeOfOneThatWaits() {
@@ -211,6 +218,30 @@ public final class WordEdgesTest extends Edges {
         apart.run(1);
         due("none waits, wherever they came to the barrier", apart.slot(0, 0, 3), 0);
         apart.lanes("lane 0 is at 3 yet", 0, 0, PLACE, 3, 11, 11, 11);
+    }
+
+    private static void barrierOnceMore() {
+        sentence(WORD, "none does any more, at once");
+        // The next barrier waits for all once more.
+        Mill m = launched(mill(WAIT, WAIT, WAIT, END), 1, 5);
+        int[] waiting = {4, 0, 4, 0, 4, 0};
+        for (int want : waiting) {
+            m.run(1);
+            due("warp 0 behind " + m.state(1) + " cycles", m.slot(0, 0, 3), want);
+            due("warp 1", m.slot(0, 1, 3), 0);
+        }
+        due("both end", m.run(2), 2);
+        // Lanes come to the barrier one behind the other; lane 3 never does.
+        Mill one = launched(mill(about(1, 4), equal(0, 1, 0), equal(1, 1, 1), equal(2, 1, 2), on(0, WAIT), on(1, WAIT), on(2, WAIT),
+            jump(7)), 1, 4);
+        one.upTo(4);
+        for (int want = 1; want <= 3; want++) {
+            one.run(1);
+            due("lanes that wait", one.slot(0, 0, 3), want);
+        }
+        one.run(20);
+        due("all three wait yet", one.slot(0, 0, 3), 3);
+        one.lanes("lane 3 alone goes on", 0, 0, PLACE, 5, 6, 7, 7);
     }
 
     private static void barrierOfTheBlock() {
@@ -457,9 +488,11 @@ public final class WordEdgesTest extends Edges {
                 Mill m = new Mill();
                 m.sizes(4, 4, 2, 4, 2, ints);
                 m.set(s[2], 77);
-                kernel(m, put(1, s[0]), load(2, 1, s[1]), jump(2));
+                // b does not count for 50.
+                kernel(m, put(1, s[0]), put(3, 4), w(50, 2, 1, 3, s[1]), jump(3));
                 due("int " + s[2] + " is one", launched(m, 1, 1).run(30), 1);
                 m.lanes(s[0] + " + " + s[1] + " of " + ints, 0, 0, 2, 77);
+                due("50 leaves it as it is", m.global(s[2]), 77);
             }
         }
     }
@@ -487,6 +520,11 @@ public final class WordEdgesTest extends Edges {
         m.run(1);
         m.lanes("read in its cycle", 0, 0, 2, 9);
         due("nothing is ever pending", m.state(19), 0);
+        // b does not count for 52.
+        Mill read = launched(mill(put(1, 9), put(3, 4), w(53, 0, 0, 1, 63), w(52, 2, 0, 3, 63), jump(4)), 1, 1);
+        read.run(20);
+        read.lanes("read", 0, 0, 2, 9);
+        due("52 leaves it as it is", read.shared(0, 63), 9);
     }
 
     /** All four lanes ask for int 8 of global memory, where 100 is; register 1 is 1 .. 4. */
@@ -675,6 +713,25 @@ public final class WordEdgesTest extends Edges {
             Mill m = launched(mill(put(2, 1), w(op, 5, 2, 2, 6), jump(2)), 1, 2);
             m.run(2);
             due("op " + op + ": a tick of d", m.slot(0, 0, REGISTER_TICK + 5) > 0 ? 1 : 0, writes ? 1 : 0);
+            writesNoOther(op, writes);
+        }
+    }
+
+    /** All registers are 21, and so are n and the int for which the word may ask; lane 0 alone does it. */
+    private static void writesNoOther(int op, boolean writes) {
+        Mill m = new Mill();
+        m.set(42, 7);
+        for (int r = 0; r < 16; r++) {
+            m.word(r, put(r, 21));
+        }
+        kernelAt(m, 16, about(1, 4), equal(1, 1, 0), put(1, 21), w(53, 0, 0, 2, 21),
+            on(1, w(op, 5, 2, 3, op == 3 ? 2 : 21)), jump(21));
+        launched(m, 1, 2).run(60);
+        for (int r = 0; r < 16; r++) {
+            due("op " + op + ", register " + r + " of one that does not do it", m.lane(0, 0, 1, r), 21);
+            if (r != 5 || !writes) {
+                due("op " + op + ", register " + r, m.lane(0, 0, 0, r), 21);
+            }
         }
     }
 
@@ -686,6 +743,11 @@ public final class WordEdgesTest extends Edges {
             Mill m = launched(mill(put(2, 1), w(op, 5, 2, 2, 6), jump(2)), 1, 2);
             m.run(2);
             due("op " + op + ": a tick of pd", m.slot(0, 0, PREDICATE_TICK + 1) > 0 ? 1 : 0, writes ? 1 : 0);
+            for (int p = 0; p < 4; p++) {
+                if (p != 1 || !writes) {
+                    m.lanes("op " + op + ", predicate " + p, 0, 0, PREDICATE + p, op == 0 ? NO_SUCH : 0);
+                }
+            }
         }
     }
 }
