@@ -528,6 +528,15 @@ public final class GoingEdgesTest extends Edges {
         Mill first = launched(mill(put(2, -1), w(42, 0, 2, 0, 0)), 1, 1);
         due("42 to -1", first.run(50), 3);
         first.states("at -1", 8, 1, 0, 0, -1);
+        sentence(TRAP, "whatever GUARDS");
+        // Predicate 3 is true in lane 2 alone: neither that nor the guards of words 0 and 127 matter beyond.
+        for (int place : new int[] {128, 255, -1, -128}) {
+            Mill m = mill(off(3, about(1, 4)), equal(3, 1, 2), jump(place));
+            m.word(127, on(3, END));
+            launched(m, 1, 4);
+            due("a trap at " + place, m.run(50), 3);
+            m.states("the least lane of the group", 8, 1, 0, 0, place);
+        }
     }
 
     private static void noSuchWord() {
