@@ -264,10 +264,6 @@ final class PlainMill {
         throw new NoSuchElementException();
     }
 
-    boolean placed(int block) {
-        return placed.stream().anyMatch(b -> b.number == block && !b.left);
-    }
-
     private void cycle() {
         int t = told[1];
         List<Request> now = new ArrayList<>();
@@ -382,14 +378,19 @@ final class PlainMill {
     private static final String ALL = "0-21 30-36 40-42 50-59 70-73";
     private static final String SHARED = "52-53 58-59";
 
+    private static final Map<String, boolean[]> OPS = new HashMap<>();
+
     private static boolean among(int op, String ranges) {
+        return OPS.computeIfAbsent(ranges, PlainMill::ops)[op];
+    }
+
+    private static boolean[] ops(String ranges) {
+        boolean[] ops = new boolean[256];
         for (String range : ranges.split(" ")) {
             String[] ends = range.split("-");
-            if (op >= Integer.parseInt(ends[0]) && op <= Integer.parseInt(ends[1])) {
-                return true;
-            }
+            java.util.Arrays.fill(ops, Integer.parseInt(ends[0]), Integer.parseInt(ends[1]) + 1, true);
         }
-        return false;
+        return ops;
     }
 
     private static int op(long w) {

@@ -1,8 +1,16 @@
 import java.util.Random;
 import java.util.function.IntSupplier;
 
-/** Holds WarpMill against PlainMill in random runs of calls (always the same ones: the seed is fixed). */
+/**
+ * Holds WarpMill against PlainMill in random runs of calls (always the same ones: the seed is fixed). An object is
+ * asked no more than the 512 calls for which it is promised, so what there is to see is asked for at random.
+ */
 public final class RandomRunsTest {
+    private static final int PROMISED_CALLS = 512;
+    // What one more launch takes at most, before it has been looked at.
+    private static final int CALLS_OF_A_LAUNCH = 130;
+
+    private static final int NONE = WarpMill.NONE;
     private static int wrong = 0;
     private static final int[] seen = new int[16];
 
@@ -10,6 +18,7 @@ public final class RandomRunsTest {
     private final int trial;
     private final WarpMill mill = new WarpMill();
     private final PlainMill plain = new PlainMill();
+    private int calls = 0;
 
     private RandomRunsTest(int trial) {
         this.trial = trial;
@@ -17,7 +26,7 @@ public final class RandomRunsTest {
     }
 
     public static void main(String[] args) {
-        int trials = args.length > 0 ? Integer.parseInt(args[0]) : 150;
+        int trials = args.length > 0 ? Integer.parseInt(args[0]) : 1500;
         for (int trial = 0; trial < trials && wrong < 20; trial++) {
             new RandomRunsTest(trial).go();
         }
@@ -35,7 +44,12 @@ public final class RandomRunsTest {
         }
     }
 
+    /** Asks both, unless the object has had its calls. */
     private int same(String call, IntSupplier got, IntSupplier due) {
+        if (left() == 0) {
+            return NONE;
+        }
+        calls++;
         int g = Check.of(got);
         int d = Check.of(due);
         if (g != d) {
@@ -48,13 +62,17 @@ public final class RandomRunsTest {
         return d;
     }
 
+    private int left() {
+        return PROMISED_CALLS - calls;
+    }
+
     private static int bit(boolean b) {
         return b ? 1 : 0;
     }
 
     private void go() {
         int launches = 1 + random.nextInt(4);
-        for (int l = 0; l < launches && wrong == 0; l++) {
+        for (int l = 0; l < launches && left() >= CALLS_OF_A_LAUNCH && wrong == 0; l++) {
             if (l == 0 || random.nextInt(3) == 0) {
                 chooseSizes();
             }
@@ -66,7 +84,7 @@ public final class RandomRunsTest {
             int most = plain.lanes * plain.slots;
             int threads = 1 + random.nextInt(random.nextBoolean() ? most : Math.min(most, 2 * plain.lanes));
             launch(blocks, threads);
-            runAWhile();
+            runAWhile(launches - l);
         }
     }
 
@@ -85,7 +103,7 @@ public final class RandomRunsTest {
             s[random.nextInt(6)] = random.nextInt(70) - 3;
             sizes(s);
         }
-        snapshot();
+        look(5);
     }
 
     private void sizes(int[] s) {
@@ -182,7 +200,7 @@ public final class RandomRunsTest {
     }
 
     private void setSome() {
-        for (int i = 0; i < 20; i++) {
+        for (int i = 0; i < 12; i++) {
             int k = random.nextInt(plain.global.length + 40) - 20;
             int v = random.nextBoolean() ? random.nextInt() : random.nextInt(50);
             same("set(" + k + ")", () -> bit(mill.set(k, v)), () -> bit(plain.set(k, v)));
@@ -202,12 +220,13 @@ public final class RandomRunsTest {
         }
     }
 
-    private void runAWhile() {
-        int runs = 20 + random.nextInt(30);
+    private void runAWhile(int launchesLeft) {
+        int kept = (launchesLeft - 1) * CALLS_OF_A_LAUNCH;
         int most = random.nextInt(3) == 0 ? 2 : 40;
-        for (int i = 0; i < runs && wrong == 0; i++) {
+        int looks = 1 + random.nextInt(30);
+        while (left() > kept + 50 && wrong == 0) {
             run(1 + random.nextInt(most));
-            snapshot();
+            look(looks);
             wrongCalls();
             int how = plain.state(0);
             if (how == 0 || how == 2 || how == 3) {
@@ -215,17 +234,17 @@ public final class RandomRunsTest {
             }
         }
         run(500);
-        snapshot();
+        look(20);
         if (plain.state(0) == 1 || plain.state(0) == 4 || random.nextInt(8) == 0) {
             same("stop()", () -> bit(mill.stop()), () -> bit(plain.stop()));
-            snapshot();
+            look(10);
             run(1 + random.nextInt(3));
         }
     }
 
     /** What a launch under way refuses, and what is out of bounds at any time. */
     private void wrongCalls() {
-        if (random.nextInt(4) != 0) {
+        if (random.nextInt(10) != 0) {
             return;
         }
         run(random.nextBoolean() ? 0 : 501);
@@ -236,68 +255,90 @@ public final class RandomRunsTest {
         }
         int k = random.nextInt();
         int j = random.nextInt(80) - 10;
-        same("state", () -> mill.state(k), () -> plain.state(k));
-        same("unit", () -> mill.unit(k, j), () -> plain.unit(k, j));
-        same("slot", () -> mill.slot(j, k, j), () -> plain.slot(j, k, j));
-        same("lane", () -> mill.lane(j, j, k, j), () -> plain.lane(j, j, k, j));
-        same("shared", () -> mill.shared(j, k), () -> plain.shared(j, k));
-        same("cached", () -> mill.cached(j, k), () -> plain.cached(j, k));
-        same("global", () -> mill.global(k), () -> plain.global(k));
+        state(k);
+        unit(k, j);
+        slot(j, k, j);
+        lane(j, j, k, j);
+        shared(j, k);
+        cached(j, k);
+        global(k);
     }
 
-    private void snapshot() {
-        for (int what = -1; what <= 20; what++) {
-            int w = what;
-            same("state(" + w + ")", () -> mill.state(w), () -> plain.state(w));
-        }
-        for (int u = -1; u <= plain.unitCount; u++) {
-            unitSnapshot(u);
-        }
-        for (int gate = -1; gate <= plain.gates; gate++) {
-            for (int place = -1; place <= 5; place++) {
-                int g = gate;
-                int p = place;
-                same("cached(" + g + ", " + p + ")", () -> mill.cached(g, p), () -> plain.cached(g, p));
-            }
-        }
-        for (int block = -1; block <= 64; block++) {
-            // Throwing is slow: of a block that is not there one int is enough.
-            int step = plain.placed(block) ? 1 + random.nextInt(9) : 66;
-            for (int k = -random.nextInt(2); k <= 64; k += step) {
-                int b = block;
-                int i = k;
-                same("shared(" + b + ", " + i + ")", () -> mill.shared(b, i), () -> plain.shared(b, i));
-            }
-        }
-        for (int k = -1; k <= plain.global.length; k += 1 + random.nextInt(3)) {
-            int i = k;
-            same("global(" + i + ")", () -> mill.global(i), () -> plain.global(i));
+    private void look(int many) {
+        for (int i = 0; i < many; i++) {
+            lookOnce();
         }
     }
 
-    private void unitSnapshot(int u) {
-        for (int what = -1; what <= 4; what++) {
-            int w = what;
-            same("unit(" + u + ", " + w + ")", () -> mill.unit(u, w), () -> plain.unit(u, w));
+    /** From just below to just above what there is. */
+    private int about(int count) {
+        return random.nextInt(count + 2) - 1;
+    }
+
+    private void lookOnce() {
+        switch (random.nextInt(12)) {
+            case 0:
+            case 1:
+                state(about(20));
+                break;
+            case 2:
+                unit(about(plain.unitCount), about(4));
+                break;
+            case 3:
+                cached(about(plain.gates), about(5));
+                break;
+            case 4:
+                shared(random.nextInt(3) == 0 ? about(64) : slotsBlock(), about(64));
+                break;
+            case 5:
+            case 6:
+                global(random.nextInt(8) == 0 ? about(plain.global.length) : random.nextInt(300));
+                break;
+            case 7:
+            case 8:
+            case 9:
+                slot(usedUnit(), about(plain.slots), about(25));
+                break;
+            default:
+                lane(usedUnit(), random.nextInt(plain.slots), random.nextInt(plain.lanes + 1), about(21));
         }
-        for (int slot = -1; slot <= plain.slots; slot++) {
-            int s = slot;
-            for (int what = -1; what <= 25; what++) {
-                int w = what;
-                same("slot(" + u + ", " + s + ", " + w + ")", () -> mill.slot(u, s, w), () -> plain.slot(u, s, w));
-            }
-            boolean free = plain.slot(u, s, 0) == -1;
-            int from = random.nextInt(8) == 0 ? -1 : 0;
-            int to = free ? 0 : random.nextInt(8) == 0 ? plain.lanes : plain.lanes - 1;
-            for (int lane = from; lane <= to; lane++) {
-                int last = free || lane < 0 || lane >= plain.lanes ? from : 20;
-                for (int r = from; r <= last; r++) {
-                    int l = lane;
-                    int q = r;
-                    same("lane(" + u + ", " + s + ", " + l + ", " + q + ")", () -> mill.lane(u, s, l, q),
-                        () -> plain.lane(u, s, l, q));
-                }
-            }
-        }
+    }
+
+    /** The first units are the ones that most launches fill. */
+    private int usedUnit() {
+        return random.nextBoolean() ? 0 : about(plain.unitCount);
+    }
+
+    private int slotsBlock() {
+        return plain.slot(random.nextInt(plain.unitCount), random.nextInt(plain.slots), 0);
+    }
+
+    private void state(int what) {
+        same("state(" + what + ")", () -> mill.state(what), () -> plain.state(what));
+    }
+
+    private void unit(int u, int what) {
+        same("unit(" + u + ", " + what + ")", () -> mill.unit(u, what), () -> plain.unit(u, what));
+    }
+
+    private void cached(int gate, int place) {
+        same("cached(" + gate + ", " + place + ")", () -> mill.cached(gate, place), () -> plain.cached(gate, place));
+    }
+
+    private void shared(int block, int k) {
+        same("shared(" + block + ", " + k + ")", () -> mill.shared(block, k), () -> plain.shared(block, k));
+    }
+
+    private void global(int k) {
+        same("global(" + k + ")", () -> mill.global(k), () -> plain.global(k));
+    }
+
+    private void slot(int u, int s, int what) {
+        same("slot(" + u + ", " + s + ", " + what + ")", () -> mill.slot(u, s, what), () -> plain.slot(u, s, what));
+    }
+
+    private void lane(int u, int s, int lane, int r) {
+        same("lane(" + u + ", " + s + ", " + lane + ", " + r + ")", () -> mill.lane(u, s, lane, r),
+            () -> plain.lane(u, s, lane, r));
     }
 }
